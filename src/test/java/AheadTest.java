@@ -70,6 +70,7 @@ public final class AheadTest {
     private static void turn() {
         SledgeVote x = new SledgeVote();
         CHECKS.due("no canton", x.turn(0, 0), -1);
+        CHECKS.due("no canton, no such side", x.turn(3, 0), -1);
         Checks.canton(x, CANTON);
         CHECKS.due("right: none", x.turn(2, 0), 0);
         CHECKS.due("right: as it is", x.turn(2, 1), 220);
@@ -97,6 +98,9 @@ public final class AheadTest {
         CHECKS.due("right by itself", x.turn(2, 1), 112);
         CHECKS.due("one on it is enough for the porch", x.turn(1, 0), 1);
         CHECKS.due("those who fell keep their lean", x.turn(1, 1), 102);
+        x.lean(0, 0);
+        CHECKS.due("those who fell keep their lean", x.turn(1, 1), 2);
+        x.undo();
         CHECKS.due("left is too far", x.turn(0, 0), -1);
         x.rows(1);
         CHECKS.due("at the last row", x.turn(2, 0), 0);
@@ -268,6 +272,10 @@ public final class AheadTest {
         Checks.canton(x, "sw3o0r5;br4k9;br3k9;br2k9;br1k9;mh0");
         CHECKS.due("four are too many", x.straw(3, -1), 0);
         CHECKS.due("there is none", x.fewest(), -1);
+        Checks.canton(x, "sr3;br2c1k9;br3c1k9;br1c2k1;mh4");
+        CHECKS.due("by one", x.straw(1, 0), 4);
+        CHECKS.due("by two others", x.straw(2, 0), 3);
+        CHECKS.due("the fewest, not the least", x.fewest(), 4);
         Checks.canton(x, "sr2;br1c2k9;br2c1k9;m");
         CHECKS.due("the first alone", x.fewest(), 1);
         Checks.canton(x, "sr2;br2c1k9;br1c2k1;mh4");
@@ -311,6 +319,8 @@ public final class AheadTest {
         CHECKS.due("no canton", x.shares(0, 1), -1);
         Checks.canton(x, CANTON);
         CHECKS.due("shares(1, 100)", x.shares(1, 100), 44);
+        CHECKS.due("who leans to none counts, too", x.lean(0, 1) * 100 + x.shares(1, 100), 244);
+        x.undo();
         CHECKS.due("shares(0, 100)", x.shares(0, 100), 22);
         CHECKS.due("shares(2, 999)", x.shares(2, 999), 333);
         CHECKS.due("shares(2, 0)", x.shares(2, 0), 0);

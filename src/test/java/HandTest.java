@@ -125,6 +125,8 @@ public final class HandTest {
         CHECKS.due("more than less grip", columnAfterOne("sg4;ml0"), 2);
         CHECKS.due("no column to the right", columnAfterOne("so4g1;ml2"), 4);
         CHECKS.due("no column to the left", columnAfterOne("so0g1;ml0"), 0);
+        CHECKS.due("to the leftmost", columnAfterOne("so1g1;ml0"), 0);
+        CHECKS.due("to the rightmost", columnAfterOne("so3g1;ml2"), 4);
         CHECKS.due("thrown left where there is none", columnAfterOne("so0;b;m"), 0);
         CHECKS.due("thrown right where there is none", columnAfterOne("so4;bc4d1;m"), 4);
         CHECKS.due("thrown to the left", columnAfterOne("bc2;m"), 1);
@@ -215,6 +217,9 @@ public final class HandTest {
         CHECKS.due("nothing went by", x.count(5), 3);
         CHECKS.due("rows(17)", x.rows(17), 8);
         CHECKS.due("acts", x.count(13), 20);
+        x.walk();
+        CHECKS.due("rows(20)", x.rows(20), 8);
+        CHECKS.due("acts", x.count(13), 40);
         CHECKS.due("at the last row", x.rows(1), -1);
         CHECKS.due("status(4)", x.status(4), 2);
     }
@@ -289,6 +294,9 @@ public final class HandTest {
             }
             CHECKS.due("sessions, log, acts", x.count(8) * 100 + x.count(12) * 10 + x.count(13), 163);
         }
+        Checks.canton(x, "sr1;m");
+        CHECKS.due("sessions(20)", x.sessions(20, 9), x.count(6));
+        CHECKS.due("sessions, log, acts", x.count(8) * 10000 + x.count(12) * 100 + x.count(13), 192020);
         sessionsWithDogs(x);
     }
 

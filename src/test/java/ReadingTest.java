@@ -45,6 +45,9 @@ public final class ReadingTest {
         }
         CHECKS.due("239", x.feed(0x00202020, 0x20202020, 0x20202020, 0x20202020, 0x20202020), 239);
         CHECKS.due("241 is refused", x.feed(0x2020, 0, 0, 0, 0), -1);
+        CHECKS.due("241 by the second number", x.feed(0, 0x2020, 0, 0, 0), -1);
+        CHECKS.due("241 by the third number", x.feed(0, 0, 0x2020, 0, 0), -1);
+        CHECKS.due("241 by the fourth number", x.feed(0, 0, 0, 0x20000020, 0), -1);
         CHECKS.due("none of it came", x.count(3), 239);
         CHECKS.due("240", x.feed(0, 0, 0x20000000, 0, 0), 240);
         CHECKS.due("nothing more at 240", x.feed(0, 0, 0, 0, 0), 240);
@@ -258,6 +261,13 @@ public final class ReadingTest {
         }
         CHECKS.due("no image", x.back(), -1);
         CHECKS.due("status stays", x.status(0), 1);
+        CHECKS.due("no ice, no bumps of the one ahead", Checks.canton(x, "b;i;mw9"), 1);
+        int[] bump = {1, 0, 3, 0, 0};
+        for (int what = 0; what < 5; what++) {
+            CHECKS.due("bump(0, " + what + ")", x.bump(0, what), bump[what]);
+        }
+        CHECKS.due("again", Checks.canton(x, "m;m"), 2);
+        CHECKS.due("no ice, no bumps", x.count(1) * 10 + x.count(11), 0);
         CHECKS.due("log", x.log(0, 0), SledgeVote.HIDDEN);
         int[] rules = {5, 2, 6, 10, 3};
         for (int what = 0; what < 5; what++) {
@@ -335,6 +345,8 @@ public final class ReadingTest {
         push("y:9999*9999/9999-90", 10);
         push("y:[0-9999*9999]/9999+150", 50);
         push("y:9999*[0-9999]/9999+150", 50);
+        push("y:1000*1000/1000-950", 50);
+        push("y:[0-1000*1000]/1000+1050", 50);
         push("y:1000*1000+1000*100-1000*1000+7", 7);
         push("y:0-1000*1000-1000*100+1000*1000+7", 7);
         push("y:1000*1000*1000*1000*1000*1000*1000/9999/2", 50);

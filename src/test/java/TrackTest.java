@@ -21,7 +21,7 @@ public final class TrackTest {
         CHECKS.due("seen(1, 9)", x.seen(1, 9, true), -1);
         CHECKS.due("seen(1, -1)", x.seen(1, -1, true), -1);
         for (int i = 1; i <= 10; i++) {
-            CHECKS.due("seen", x.seen(2 * i, 8, i % 2 == 0), i);
+            CHECKS.due("seen", x.seen(2 * i, i % 2 * 8, i % 2 == 0), i);
             CHECKS.due("count(10)", x.count(10), i);
         }
         CHECKS.due("there are ten", x.seen(1, 1, false), -1);
@@ -96,6 +96,7 @@ public final class TrackTest {
         CHECKS.due("no canton", x.best(1), -1);
         Checks.canton(x, CANTON);
         CHECKS.due("all rows alike: the first", x.best(3), 1);
+        CHECKS.due("best(5)", x.best(5), 1);
         CHECKS.due("best(0)", x.best(0), -1);
         CHECKS.due("best(6)", x.best(6), -1);
         x.seen(1, 8, true);
@@ -109,5 +110,15 @@ public final class TrackTest {
         CHECKS.due("of the two that fit", x.best(2), 4);
         x.seen(2, 4, false);
         CHECKS.due("none fits", x.best(2), -1);
+        Checks.canton(x, CANTON);
+        x.seen(2, 2, true);
+        CHECKS.due("one fits: any row tells", x.best(3), 1);
+        // By columns 8 8 8, 8 7 6, 6 5 4 and 7 7 7.
+        Checks.canton(x, "sw9o7g2r3;mw1l2;mw2l2;mw3l0");
+        Checks.law(x, "y:w=5&r>0?0;y:w");
+        CHECKS.due("the last row tells all", x.best(3), 3);
+        // By columns 0 0 0, 0 1 2, 2 3 4 and 1 1 1.
+        Checks.canton(x, "sw9o1g2r3;mw1l0;mw2l0;mw3l2");
+        CHECKS.due("the last row tells all", x.best(3), 3);
     }
 }
