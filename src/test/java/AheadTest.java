@@ -331,6 +331,8 @@ public final class AheadTest {
         x.rows(2);
         CHECKS.due("off it", x.shares(0, 100), 0);
         CHECKS.due("alone", x.shares(1, 100), 100);
+        Checks.canton(x, "mw1");
+        CHECKS.due("the least weight, alone", x.shares(0, 100), 100);
         Checks.canton(x, "bc2k9;m");
         x.rows(1);
         CHECKS.due("none on it", x.shares(0, 100), 0);

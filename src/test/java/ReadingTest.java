@@ -67,6 +67,9 @@ public final class ReadingTest {
         CHECKS.due("end(4) then", x.end(4), false);
         CHECKS.due("text(0)", x.text(0), 1);
         CHECKS.due("weight", x.member(0, 0), 2);
+        Checks.put(x, "m;   w3");
+        x.end(2);
+        CHECKS.due("what stood behind is gone", x.fault(0), 2);
     }
 
     private static void canton(String text, int want) {
@@ -371,5 +374,6 @@ public final class ReadingTest {
         push("y:((w=1|w=4)&!(h<7|h>7))?p*10;y:3", 20);
         push("y:1=1&1=1&1=2?7;y:3", 3);
         push("y:1=2|1=2|1=1?7;y:3", 7);
+        push("y:1=2?1;".repeat(29) + "y:5", 5);
     }
 }

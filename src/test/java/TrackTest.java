@@ -113,6 +113,9 @@ public final class TrackTest {
         Checks.canton(x, CANTON);
         x.seen(2, 2, true);
         CHECKS.due("one fits: any row tells", x.best(3), 1);
+        // By columns 1 0 0 and 1 1 0.
+        Checks.canton(x, "sw3o1g8r3;ir1;br3c1k1;mw1l0");
+        CHECKS.due("the row between", x.best(3), 2);
         // By columns 8 8 8, 8 7 6, 6 5 4 and 7 7 7.
         Checks.canton(x, "sw9o7g2r3;mw1l2;mw2l2;mw3l0");
         Checks.law(x, "y:w=5&r>0?0;y:w");
