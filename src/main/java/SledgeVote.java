@@ -1598,7 +1598,7 @@ public final class SledgeVote {
         }
 
         int fewestStraw(State now) {
-            listStraw(now, 0, MOST_STRAW);
+            listStraw(now, 0, MOST_BUMPS);
             int fewest = found.at(0);
             for (int i = 1; i < found.size; i++) {
                 if (Integer.bitCount(found.at(i)) < Integer.bitCount(fewest)) {
@@ -1610,8 +1610,9 @@ public final class SledgeVote {
 
         int partsEnding(State now, int side, int chance) {
             long ending = 0;
-            for (int wrong = 0; wrong <= slope.everyone(); wrong++) {
-                long part = (wrong & ~now.aboard) == 0 ? partOf(now, wrong, chance) : 0;
+            int mayErr = now.aboard & ~moderates(now);
+            for (int wrong = 0; wrong <= mayErr; wrong++) {
+                long part = (wrong & ~mayErr) == 0 ? partOf(mayErr, wrong, chance) : 0;
                 if (part > 0) {
                     trial.copy(now);
                     for (int m = 0; m < slope.canton.memberCount; m++) {
@@ -1627,10 +1628,10 @@ public final class SledgeVote {
             return (int) ending;
         }
 
-        private long partOf(State now, int wrong, int chance) {
+        private long partOf(int mayErr, int wrong, int chance) {
             long part = ALL_PARTS;
             for (int m = 0; m < slope.canton.memberCount; m++) {
-                if (now.isAboard(m)) {
+                if ((mayErr >> m & 1) == 1) {
                     long cut = part * chance / 100;
                     part = (wrong >> m & 1) == 1 ? cut : part - cut;
                 }

@@ -270,8 +270,17 @@ public final class AheadTest {
         Checks.canton(x, "sw3o0r5y0;br4k9;br3k9;br2k9;mh0");
         CHECKS.due("all three, without straw", x.fewest(), 7);
         Checks.canton(x, "sw3o0r5;br4k9;br3k9;br2k9;br1k9;mh0");
-        CHECKS.due("four are too many", x.straw(3, -1), 0);
-        CHECKS.due("there is none", x.fewest(), -1);
+        CHECKS.due("three are not enough", x.straw(3, -1), 0);
+        CHECKS.due("four are out of bounds", x.straw(4, -1), -1);
+        CHECKS.due("four, as it asks for no k", x.fewest(), 15);
+        x.strew(2);
+        CHECKS.due("three more", x.fewest(), 11);
+        Checks.canton(x, "bc2;br2c2;br3c2;br4c2;mh0");
+        CHECKS.due("four", x.fewest(), 15);
+        Checks.canton(x, "sw3o0;br6;br5;br4;br3;br2;br1;mh0");
+        CHECKS.due("all six", x.fewest(), 63);
+        Checks.canton(x, "sw3o0;br6;br5;br4c1;br3;br2;br1;mh0");
+        CHECKS.due("five of six", x.fewest(), 59);
         Checks.canton(x, "sr3;br2c1k9;br3c1k9;br1c2k1;mh4");
         CHECKS.due("by one", x.straw(1, 0), 4);
         CHECKS.due("by two others", x.straw(2, 0), 3);
@@ -309,9 +318,17 @@ public final class AheadTest {
         CHECKS.due("none wrongly", x.odds(2, 33), 135012511);
         CHECKS.due("the rest", x.odds(1, 33), 1000000000 - 3913539 - 135012511);
         Checks.canton(x, "sg5r1;m;mw1l2;mw1l2;mw1l2;mw1l2;mw1l2");
-        CHECKS.due("the part of one who leans to none is cut, too", x.odds(0, 33), 3913538);
+        CHECKS.due("the part of one who leans to none is not cut", x.odds(0, 33), 3913539);
+        CHECKS.due("the part of one who leans to none is not cut", x.odds(2, 33), 135012511);
+        Checks.canton(x, "sg5r1;mw1l2;mw1l2;mw1l2;m;mw1l2;mw1l2");
+        CHECKS.due("nor amid the others", x.odds(0, 33), 3913539);
         Checks.canton(x, "sg5r1;mw1l2;mw1l2;mw1l2;mw1l2;mw1l2;m");
-        CHECKS.due("behind the others it is whole", x.odds(0, 33), 3913539);
+        CHECKS.due("nor behind the others", x.odds(0, 33), 3913539);
+        Checks.canton(x, "m;m;m;m;ml0w9");
+        CHECKS.due("one of five leans wrongly", x.odds(0, 1), 990000000);
+        CHECKS.due("one of five leans wrongly", x.odds(2, 1), 10000000);
+        x.lean(4, 1);
+        CHECKS.due("none can lean wrongly", x.odds(1, 99), 1000000000);
     }
 
     private static void shares() {

@@ -1014,7 +1014,7 @@ final class Model {
     }
 
     int fewest() {
-        for (int k = 0; canton != null && k <= 3; k++) {
+        for (int k = 0; canton != null && k <= canton.bumps.size(); k++) {
             if (!strawSets(k).isEmpty()) {
                 return strawSets(k).get(0);
             }
@@ -1082,12 +1082,12 @@ final class Model {
         if (m == leans.length) {
             return sideBy(leans.clone()) == side ? part : 0;
         }
-        if (!now.on[m]) {
+        if (!now.on[m] || leans[m] == 1) {
             return parts(m + 1, part, leans, side, chance);
         }
         long wrong = part * chance / 100;
         int[] wrongly = leans.clone();
-        wrongly[m] = new int[] {2, 1, 0}[leans[m]];
+        wrongly[m] = leans[m] == 0 ? 2 : 0;
         return parts(m + 1, wrong, wrongly, side, chance) + parts(m + 1, part - wrong, leans, side, chance);
     }
 
