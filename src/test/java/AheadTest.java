@@ -324,6 +324,11 @@ public final class AheadTest {
         CHECKS.due("nor amid the others", x.odds(0, 33), 3913539);
         Checks.canton(x, "sg5r1;mw1l2;mw1l2;mw1l2;mw1l2;mw1l2;m");
         CHECKS.due("nor behind the others", x.odds(0, 33), 3913539);
+        Checks.canton(x, "sg5r2;bc3k5;mw1l2h0;mw1l2h9;mw1l2h9;mw1l2h9;mw1l2h9;mw1l2h9");
+        x.rows(1);
+        CHECKS.due("the first fell", x.count(7), 62);
+        CHECKS.due("the part of one off the sledge is not cut", x.odds(0, 33), 3913539);
+        CHECKS.due("the part of one off the sledge is not cut", x.odds(2, 33), 135012511);
         Checks.canton(x, "m;m;m;m;ml0w9");
         CHECKS.due("one of five leans wrongly", x.odds(0, 1), 990000000);
         CHECKS.due("one of five leans wrongly", x.odds(2, 1), 10000000);

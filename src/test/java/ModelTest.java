@@ -65,7 +65,24 @@ public final class ModelTest {
         return upTo(40) == 0 ? " " : "";
     }
 
+    /** A run with a bump in most rows below the top and a full sledge: many fall, and much straw is needed. */
+    private String bumpyText() {
+        StringBuilder text = new StringBuilder("sr12y9g").append(6 + upTo(40)).append(";");
+        for (int row = 1; row <= 6; row++) {
+            text.append("br").append(row).append("c").append(upTo(4) > 0 ? 2 : 1 + upTo(3));
+            text.append("k").append(1 + upTo(9)).append("d").append(upTo(2)).append(";");
+        }
+        for (int m = 0; m < 6; m++) {
+            text.append("mw").append(1 + upTo(9)).append("l").append(upTo(3)).append("h").append(upTo(9));
+            text.append(m < 5 ? ";" : "");
+        }
+        return text.toString();
+    }
+
     private String cantonText() {
+        if (upTo(5) == 0) {
+            return bumpyText();
+        }
         int small = 3 + upTo(20);
         StringBuilder text = new StringBuilder();
         if (upTo(5) > 0) {
