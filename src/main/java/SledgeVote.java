@@ -340,7 +340,11 @@ public final class SledgeVote {
     }
 
     public int fewest() {
-        return hasCanton() ? outlook.fewestStraw(now) : NONE;
+        if (!hasCanton()) {
+            return NONE;
+        }
+        outlook.listStraw(now, 0, MOST_BUMPS);
+        return outlook.found.ofFewestBits();
     }
 
     public int seen(int row, int column, boolean is) {
@@ -1361,6 +1365,17 @@ public final class SledgeVote {
         int pick(int i) {
             return i == NONE ? size : at(i);
         }
+
+        /** The least of those sets that have the fewest, NONE without. */
+        int ofFewestBits() {
+            int fewest = at(0);
+            for (int i = 1; i < size; i++) {
+                if (Integer.bitCount(at(i)) < Integer.bitCount(fewest)) {
+                    fewest = at(i);
+                }
+            }
+            return fewest;
+        }
     }
 
     /** What can be told from as it is now; it goes ahead on a state of its own. */
@@ -1595,17 +1610,6 @@ public final class SledgeVote {
                     }
                 }
             }
-        }
-
-        int fewestStraw(State now) {
-            listStraw(now, 0, MOST_BUMPS);
-            int fewest = found.at(0);
-            for (int i = 1; i < found.size; i++) {
-                if (Integer.bitCount(found.at(i)) < Integer.bitCount(fewest)) {
-                    fewest = found.at(i);
-                }
-            }
-            return fewest;
         }
 
         int partsEnding(State now, int side, int chance) {
