@@ -15,6 +15,7 @@ public final class BoundsTest {
         usualItems();
         howManyClauses();
         lengthFaults();
+        faultsGoneBy();
         anotherCanton();
         fourLaws();
         withinAMillion();
@@ -232,6 +233,36 @@ public final class BoundsTest {
         fault("b;i;m", -1);
     }
 
+    /** Promise 4: what was wrong with a text ahead is not wrong with the next one on the same tape. */
+    private static void faultsGoneBy() {
+        String[] wrong = {"i;i;m", "b;b;m", "sw3o3;m", "bc5;m", "s;s", "m;m;m;m;m;m;m", "b;b;b;b;b;b;b", "i;i;i;i;i", "mw0",
+            "mw100", "mw3w3", "s", "x", "y:1", ""};
+        SledgeVote x = new SledgeVote();
+        for (String text : wrong) {
+            x.end(0);
+            Checks.put(x, text);
+            CHECKS.due("[" + text + "] is wrong", x.fault(0) != NONE && x.text(0) == NONE, true);
+            x.end(0);
+            Checks.put(x, "s;b;i;m;mw9");
+            CHECKS.due("fine behind [" + text + "]", x.fault(0), NONE);
+            CHECKS.due("taken", x.text(0), 2);
+            CHECKS.due("bumps and ice", x.count(1) * 10 + x.count(11), 11);
+            CHECKS.due("width, the column at the top", x.rule(0) * 10 + x.rule(1), 52);
+        }
+        String[] wrongLaws = {"y:[[[[[[[1", "y:!!!!!!!", "y:12345", "y:1+", "y:w=1", "y:(w=1", "", "m"};
+        for (String text : wrongLaws) {
+            x.end(0);
+            Checks.put(x, text);
+            CHECKS.due("[" + text + "] is wrong", x.fault(1) != NONE && x.text(1) == NONE, true);
+            x.end(0);
+            Checks.put(x, "y:[[[[[[w]]]]]]=9?8;y:7");
+            CHECKS.due("fine behind [" + text + "]", x.fault(1), NONE);
+        }
+        CHECKS.due("taken", x.text(1), 0);
+        x.law(0);
+        CHECKS.due("push", x.member(0, 6) * 10 + x.member(1, 6), 78);
+    }
+
     /** Promise 5: "all that was of another one, SEEN, too, is gone but LAWS, which holds, DOGS, STATUS". */
     private static void anotherCanton() {
         SledgeVote x = Checks.of("sr1w9o5;br1c5k9;br7c3;ir7;ir3;mw9h9s9l0;mw8;mw7;mw6;mw5l2;mw4");
@@ -382,6 +413,7 @@ public final class BoundsTest {
             push("y:2<" + a + "?7;y:8", a > 2 ? 7 : 8);
             push("y:2>" + a + "?7;y:8", a < 2 ? 7 : 8);
         }
+        comparisons();
         for (int bits = 0; bits < 8; bits++) {
             boolean a = (bits & 1) != 0;
             boolean b = (bits & 2) != 0;
@@ -400,6 +432,26 @@ public final class BoundsTest {
         push("y:1=2|1=1&(1=2|1=1&(1=2|1=1&(1=2|1=1&(1=2|1=1&(1=2|1=1&40=1+3*13)))))?7;y:8", 7);
         push("y:1=2|1=1&(1=2|1=1&(1=2|1=1&(40=1+3*[2+1*[3+2*[1+3*1]]]-4+4)))?7;y:8", 7);
         push("y:[1+2*[1+2*[1+2*[1+2*[1+2*[1+2*1]]]]]]-100", 27);
+    }
+
+    /** Each of = < > below each of ! & | ( ), holding and not. */
+    private static void comparisons() {
+        for (char sign : "=<>".toCharArray()) {
+            for (int a = 1; a <= 3; a++) {
+                boolean truth = sign == '=' ? a == 2 : sign == '<' ? a < 2 : a > 2;
+                String unit = a + "" + sign + "2";
+                push("y:!" + unit + "?7;y:8", truth ? 8 : 7);
+                push("y:!!" + unit + "?7;y:8", truth ? 7 : 8);
+                push("y:(" + unit + ")?7;y:8", truth ? 7 : 8);
+                push("y:" + unit + "&1=1?7;y:8", truth ? 7 : 8);
+                push("y:1=1&" + unit + "?7;y:8", truth ? 7 : 8);
+                push("y:" + unit + "|1=2?7;y:8", truth ? 7 : 8);
+                push("y:1=2|" + unit + "?7;y:8", truth ? 7 : 8);
+                push("y:!(" + unit + "&1<2)?7;y:8", truth ? 8 : 7);
+                push("y:!(" + unit + "|2>3)?7;y:8", truth ? 8 : 7);
+                push("y:!(" + unit + "&" + unit + ")?7;y:8", truth ? 8 : 7);
+            }
+        }
     }
 
     /** Part 2: "held within 0 .. 99 (none at first: WEIGHT)". */

@@ -282,6 +282,9 @@ public final class OutlookTest {
         rests(Checks.of("sr1g1;m;ml2"));
         rests(Checks.of("sr1g1;ml0;ml2"), 1, 12);
         rests(Checks.of("sr1g6;ml2;ml2"), 11, 22);
+        rests(Checks.of("sr1g6;ml0;ml0"), 0, 11);
+        rests(Checks.of("sr1g3;ml0;ml0"), 1, 10);
+        rests(Checks.of("sr1g3;ml2;ml2"), 12, 21);
         SledgeVote x = Checks.of("sr1g60;m;m");
         x.rows(1);
         rests(x, 11);
@@ -577,6 +580,7 @@ public final class OutlookTest {
         // All wrongly: 10 to the 9 by 100 four times is 10, then cut to 0. None wrongly: 960596010 behind the fourth,
         // less 9605960 (cut) and less 9509900 (cut).
         parts(x, 1, 0, ALL - 941480150, 941480150);
+        CHECKS.due("none wrongly by 99: 10 behind the fourth, then 1 and 1", x.odds(2, 99), 1);
         x = Checks.of("sr1g15;ml2;ml2;ml2;ml2;ml2");
         CHECKS.due("five of them, cut to 0", x.odds(0, 1), 0);
         x = Checks.of("sr1g12;ml2;ml2;ml2;ml2");

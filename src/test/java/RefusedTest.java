@@ -339,8 +339,11 @@ public final class RefusedTest {
     private static void turns() {
         for (int what = 0; what < 2; what++) {
             int w = what;
-            withoutCanton("turn(0, " + what + ")", NONE, NO_STATUS, x -> x.turn(0, w));
-            withoutCanton("seating(0, " + what + ")", NONE, NO_STATUS, x -> x.seating(0, w));
+            for (int side = 0; side < 3; side++) {
+                int s = side;
+                withoutCanton("turn(" + side + ", " + what + ")", NONE, NO_STATUS, x -> x.turn(s, w));
+                withoutCanton("seating(" + side + ", " + what + ")", NONE, NO_STATUS, x -> x.seating(s, w));
+            }
             refused("last", "turn: there is none, " + what, NONE, NO_STATUS, x -> x.turn(0, w));
             refused("last", "seating: there is none, " + what, NONE, NO_STATUS, x -> x.seating(0, w));
             for (int side : new int[] {-1, 3, MIN, MAX}) {
@@ -453,7 +456,10 @@ public final class RefusedTest {
 
     /** Promises 35 to 39. */
     private static void oddsAndShares() {
-        withoutCanton("odds(0, 0)", NONE, NO_STATUS, x -> x.odds(0, 0));
+        for (int side = 0; side < 3; side++) {
+            int s = side;
+            withoutCanton("odds(" + side + ", 0)", NONE, NO_STATUS, x -> x.odds(s, 0));
+        }
         for (int side : new int[] {-1, 3, MIN, MAX}) {
             everywhere("odds(" + side + ", 50)", NONE, x -> x.odds(side, 50));
         }
