@@ -24,6 +24,7 @@ public final class ActsTest {
         eachUndone();
         fortyActs();
         fortySessions();
+        twoThousandRows();
         sixtyRows();
         sixtyRowsUndone();
         logOfSessions();
@@ -288,7 +289,39 @@ public final class ActsTest {
         CHECKS.due("as behind the first: " + unlike, unlike.isEmpty(), true);
     }
 
-    /** Twenty rows with sums 0 .. 19, then as many to the left. */
+    /** As many rows as a hundred sessions have: the latest forty undone, the log is that of the first sixty. */
+    private static void twoThousandRows() {
+        SledgeVote x = Checks.of("sr20g9;mw1;mw2;mw4;mw8");
+        SledgeVote y = Checks.of("sr20g9;mw1;mw2;mw4;mw8");
+        Checks.law(x, "y:w+r");
+        Checks.law(y, "y:w+r");
+        x.dogs(5);
+        y.dogs(5);
+        for (int seed = 0; seed < 5; seed++) {
+            x.sessions(20, seed);
+            if (seed < 3) {
+                y.sessions(20, seed);
+            }
+        }
+        CHECKS.due("log", x.count(12), 60);
+        while (x.count(13) > 0) {
+            x.undo();
+        }
+        y.image();
+        y.back();
+        String unlike = Whole.unlike(Whole.of(x), Whole.of(y));
+        CHECKS.due("as behind sixty: " + unlike, unlike.isEmpty(), true);
+        for (int seed = 0; seed < 400; seed++) {
+            x.sessions(20, seed);
+            y.sessions(20, seed);
+            x.image();
+            x.back();
+        }
+        unlike = Whole.unlike(Whole.of(x), Whole.of(y).replace("count 13 is 40", "count 13 is 0"));
+        CHECKS.due("with images between or without: " + unlike, unlike.isEmpty(), true);
+    }
+
+    /** Twenty rows with sums 1 .. 20, then as many to the left. */
     private static SledgeVote rising() {
         SledgeVote x = Checks.of("sr20g60;ml2");
         Checks.law(x, "y:r+1");
@@ -524,9 +557,9 @@ public final class ActsTest {
         CHECKS.due("and takes none away", x.lean(0, x.member(0, 1) == 0 ? 2 : 0) >= 0 && x.undo() == acts, true);
         x.back();
         String image = Whole.of(x);
-        Act[] acts2 = {y -> y.lean(2, y.member(2, 1) == 1 ? 0 : 1), y -> y.heel(0), y -> y.change(0, 2), y -> y.strew(1),
-            y -> y.rows(1), y -> y.rows(2), y -> y.sessions(1, 1), y -> y.sessions(20, 2), y -> y.rows(2) + y.walk()};
-        for (Act act : acts2) {
+        Act[] done = {y -> y.lean(2, y.member(2, 1) == 1 ? 0 : 1), y -> y.heel(0), y -> y.change(0, 2),
+            y -> y.strew(1), y -> y.rows(1), y -> y.rows(2), y -> y.sessions(1, 1), y -> y.sessions(20, 2), y -> y.rows(2) + y.walk()};
+        for (Act act : done) {
             act.on(x);
             CHECKS.due("something was done", Whole.unlike(image, Whole.of(x)).isEmpty(), false);
             CHECKS.due("back()", x.back(), 1);

@@ -196,7 +196,8 @@ public final class BoundsTest {
         }
         CHECKS.due("seven", Checks.canton(new SledgeVote(), bumps.toString()), NONE);
         CHECKS.due("five of ice", Checks.canton(new SledgeVote(), "m;i;ir1;ir2;ir3;ir4"), NONE);
-        CHECKS.due("all that can be", Checks.canton(new SledgeVote(), "m;b;i;m;br2;ir1;m;br3;ir2;m;br4;ir3;m;br5;s;m;br6"), 6);
+        String all = "m;b;i;m;br2;ir1;m;br3;ir2;m;br4;ir3;m;br5;s;m;br6";
+        CHECKS.due("all that can be", Checks.canton(new SledgeVote(), all), 6);
         CHECKS.due("rules twice", Checks.canton(new SledgeVote(), "s;m;s"), NONE);
     }
 
@@ -235,8 +236,8 @@ public final class BoundsTest {
 
     /** Promise 4: what was wrong with a text ahead is not wrong with the next one on the same tape. */
     private static void faultsGoneBy() {
-        String[] wrong = {"i;i;m", "b;b;m", "sw3o3;m", "bc5;m", "s;s", "m;m;m;m;m;m;m", "b;b;b;b;b;b;b", "i;i;i;i;i", "mw0",
-            "mw100", "mw3w3", "s", "x", "y:1", ""};
+        String[] wrong = {"i;i;m", "b;b;m", "sw3o3;m", "bc5;m", "s;s", "m;m;m;m;m;m;m", "b;b;b;b;b;b;b", "i;i;i;i;i",
+            "mw0", "mw100", "mw3w3", "s", "x", "y:1", ""};
         SledgeVote x = new SledgeVote();
         for (String text : wrong) {
             x.end(0);

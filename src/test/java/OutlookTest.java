@@ -29,6 +29,7 @@ public final class OutlookTest {
         whoFromTheTop();
         look();
         odds();
+        oddsByNumbers();
         oddsFall();
         shares();
         most();
@@ -216,6 +217,10 @@ public final class OutlookTest {
         CHECKS.due("off the sledge itself", x.power(0), 0);
         x.rows(1);
         CHECKS.due("at the last row", x.power(5), 0);
+        CHECKS.due("other columns, the same side", Checks.of("sw9o0r1g1;m").power(0), 0);
+        CHECKS.due("over the porch", Checks.of("sw9o4r1g1;m").power(0), 1);
+        CHECKS.due("from the porch or not", Checks.of("sw9o3r1g1;m").power(0), 1);
+        CHECKS.due("no porch between", Checks.of("sw4o1r1g1;m").power(0), 1);
         // The leans now do not matter.
         x = Checks.of("sr1g1;ml0w2;ml2w1;m");
         int before = x.power(2);
@@ -585,6 +590,23 @@ public final class OutlookTest {
         CHECKS.due("five of them, cut to 0", x.odds(0, 1), 0);
         x = Checks.of("sr1g12;ml2;ml2;ml2;ml2");
         CHECKS.due("four of them: ten", x.odds(0, 1), 10);
+    }
+
+    /**
+     * "one behind the other by numbers": it ends at the porch if the light one alone leans wrongly (the bump keeps
+     * those from it who went to the left). As the sixth it has 33 100ths of 135012511, cut; as the first its part of
+     * 330000000 is cut by the fifth and the sixth.
+     */
+    private static void oddsByNumbers() {
+        String[] members = {"mw2l2;mw2l2;mw2l2;mw2l2;mw2l2;mw1l2", "mw1l2;mw2l2;mw2l2;mw2l2;mw2l2;mw2l2"};
+        int[] due = {44554128, 44554129};
+        for (int i = 0; i < 2; i++) {
+            SledgeVote x = Checks.of("sw9o4g9r2;bc3k1;" + members[i]);
+            Checks.law(x, "y:r=0?w;y:w=1?9;y:0");
+            CHECKS.due("the light one alone", x.odds(1, 33), due[i]);
+            x.change(0, 5);
+            CHECKS.due("not by seats", x.odds(1, 33), due[i]);
+        }
     }
 
     /** Those who fall lean wrongly as well, ahead of it; those off it do not. */
